@@ -32,7 +32,7 @@ public final class PulseParts {
     private final Laws laws;
     private final Echoes echoes;
     private final Bests bests;
-    private final Rests rests;
+    private final Rests sets;
     private final Cells cells;
     private final Finder finder;
     private final Shares shares;
@@ -47,7 +47,7 @@ public final class PulseParts {
         laws = new Laws();
         echoes = new Echoes(codes, laws);
         bests = new Bests(codes, echoes);
-        rests = new Rests(settings);
+        sets = new Rests(settings);
         cells = new Cells();
         finder = new Finder(cells, settings);
         shares = new Shares();
@@ -94,7 +94,7 @@ public final class PulseParts {
         if (sort == CODE) {
             return codes.readFrom(tape);
         }
-        return sort == LAW ? lawReader.readLaw() : rests.readFrom(tape);
+        return sort == LAW ? lawReader.readLaw() : sets.readFrom(tape);
     }
 
     private int keep(int sort) {
@@ -102,7 +102,7 @@ public final class PulseParts {
             return laws.keep(lawReader);
         }
         if (sort == RESTS) {
-            return rests.keep();
+            return sets.keep();
         }
         int number = codes.keep();
         if (number != NONE) {
@@ -118,11 +118,11 @@ public final class PulseParts {
         return k == NONE ? codes.lengthOf(code) : codes.turn(code, k);
     }
 
-    public int rest(int set, int i) {
-        if (!rests.has(set) || i < NONE) {
+    public int rest(int rests, int i) {
+        if (!sets.has(rests) || i < NONE) {
             return NONE;
         }
-        return i == NONE ? rests.lengthOf(set) : rests.number(set, i);
+        return i == NONE ? sets.lengthOf(rests) : sets.number(rests, i);
     }
 
     public int weight(int code, int law, int k) {
@@ -138,9 +138,9 @@ public final class PulseParts {
             return HIDDEN;
         }
         echoes.weigh(other, law);
-        echoes.meet(code, other, way, speed);
+        int power = echoes.powerOf(code, other, way, speed);
         if (what == 2) {
-            return echoes.power();
+            return power;
         }
         return what == 0 ? echoes.real : echoes.imaginary;
     }
@@ -160,7 +160,7 @@ public final class PulseParts {
             case 3:
                 return echoes.leak(code);
             case 4:
-                return echoes.loss(code);
+                return echoes.loss(code, echoes.peak(code));
             default:
                 return NONE;
         }
@@ -193,45 +193,45 @@ public final class PulseParts {
         return true;
     }
 
-    public int seen(int set, int r) {
-        if (!rests.has(set) || !within(r, 0, FARTHEST)) {
+    public int seen(int rests, int r) {
+        if (!sets.has(rests) || !within(r, 0, FARTHEST)) {
             return NONE;
         }
-        return rests.sees(set, r) ? 1 : 0;
+        return sets.sees(rests, r) ? 1 : 0;
     }
 
-    public int map(int set, int most, int what) {
-        if (!rests.has(set) || !within(most, 1, FARTHEST) || !within(what, 0, 1)) {
+    public int map(int rests, int most, int what) {
+        if (!sets.has(rests) || !within(most, 1, FARTHEST) || !within(what, 0, 1)) {
             return HIDDEN;
         }
-        return what == 0 ? rests.seenTo(set, most) : rests.firstUnseen(set, most);
+        return what == 0 ? sets.seenTo(rests, most) : sets.firstUnseen(rests, most);
     }
 
-    public int choice(int set, int k, int most, int what) {
-        if (!rests.has(set) || !within(k, 0, rests.lengthOf(set)) || !within(most, 1, FARTHEST)
+    public int choice(int rests, int k, int most, int what) {
+        if (!sets.has(rests) || !within(k, 0, sets.lengthOf(rests)) || !within(most, 1, FARTHEST)
                 || !within(what, 0, 1)) {
             return NONE;
         }
-        rests.choose(set, k, most);
-        return what == 0 ? rests.chosen : rests.chosenSees;
+        sets.choose(rests, k, most);
+        return what == 0 ? sets.chosen : sets.chosenSees;
     }
 
     public boolean read(int place, int v) {
-        return rests.putReading(place, v);
+        return sets.putReading(place, v);
     }
 
-    public int unfold(int set, int most, int wrong, int by, int i) {
-        if (!rests.has(set) || !within(most, 0, FARTHEST) || !within(wrong, 0, 8) || !within(by, 0, 9) || i < NONE) {
+    public int unfold(int rests, int most, int wrong, int by, int i) {
+        if (!sets.has(rests) || !within(most, 0, FARTHEST) || !within(wrong, 0, 8) || !within(by, 0, 9) || i < NONE) {
             return NONE;
         }
-        return rests.readingsFit(set) ? rests.unfolded(set, most, wrong, by, i) : HIDDEN;
+        return sets.readingsFit(rests) ? sets.unfolded(rests, most, wrong, by, i) : HIDDEN;
     }
 
-    public int ghosts(int set, int r, int s, int most) {
-        if (!rests.has(set) || !within(r, 0, FARTHEST) || !within(s, 0, FARTHEST) || !within(most, 0, FARTHEST)) {
+    public int ghosts(int rests, int r, int s, int most) {
+        if (!sets.has(rests) || !within(r, 0, FARTHEST) || !within(s, 0, FARTHEST) || !within(most, 0, FARTHEST)) {
             return NONE;
         }
-        return rests.ghostsOf(set, r, s, most);
+        return sets.ghostsOf(rests, r, s, most);
     }
 
     public int cell(int v) {
@@ -323,8 +323,8 @@ public final class PulseParts {
                 || high - low + 1 < k || !within(most, 1, Rests.FARTHEST_STAGGER) || !within(what, 0, 1)) {
             return NONE;
         }
-        rests.staggerBest(k, low, high, most);
-        return what == 0 ? rests.chosen : rests.chosenSees;
+        sets.staggerBest(k, low, high, most);
+        return what == 0 ? sets.chosen : sets.chosenSees;
     }
 
     public int factor(int m, int levels, int order, int parts) {
@@ -354,7 +354,7 @@ public final class PulseParts {
             case 1:
                 return laws.many;
             case 2:
-                return rests.many;
+                return sets.many;
             case 3:
                 return tape.size;
             case 4:
@@ -824,12 +824,13 @@ public final class PulseParts {
                         break;
                     case 'y':
                         return pop();
-                    case '?':
+                    case '?': {
                         int sum = pop();
                         if (pop() != 0) {
                             return sum;
                         }
                         break;
+                    }
                     default:
                         doStep(step);
                         break;
@@ -920,13 +921,7 @@ public final class PulseParts {
             }
         }
 
-        /** COMES of a CODE and the FILTER in use, which is the other's: real and imaginary part. */
-        void meet(int one, int other, int way, int speed) {
-            real = 0;
-            imaginary = 0;
-            addMeeting(one, other, way, speed);
-        }
-
+        /** Adds COMES of a CODE and the FILTER in use, which is the other's. */
         private void addMeeting(int one, int other, int way, int speed) {
             if (!codes.has(one) || !codes.has(other)) {
                 return;
@@ -949,12 +944,15 @@ public final class PulseParts {
             }
         }
 
-        int power() {
+        private int power() {
             return real * real + imaginary * imaginary;
         }
 
+        /** POWER of COMES; its parts stay in real and imaginary. */
         int powerOf(int one, int other, int way, int speed) {
-            meet(one, other, way, speed);
+            real = 0;
+            imaginary = 0;
+            addMeeting(one, other, way, speed);
             return power();
         }
 
@@ -987,14 +985,14 @@ public final class PulseParts {
             return greatest;
         }
 
-        int loss(int code) {
+        int loss(int code, int peak) {
             int length = codes.lengthOf(code);
             int squares = 0;
             for (int k = 0; k < length && k < weights.length; k++) {
                 squares += weights[k] * weights[k];
             }
             long all = (long) length * squares;
-            return all == 0 ? 0 : (int) (MILLION * peak(code) / all);
+            return all == 0 ? 0 : (int) (MILLION * peak / all);
         }
 
         /** The greatest POWER at any WAY: farther ones, at which no places meet, come to 0. */
@@ -1057,7 +1055,7 @@ public final class PulseParts {
         }
 
         private int powerTogether(int one, int other, int way) {
-            meet(one, one, way, 0);
+            powerOf(one, one, way, 0);
             addMeeting(other, other, way, 0);
             return power();
         }
@@ -1182,7 +1180,7 @@ public final class PulseParts {
             if (unlike > 0) {
                 return;
             }
-            int loss = echoes.loss(code);
+            int loss = echoes.loss(code, peak);
             if (unlike < 0 || loss > manyOrLoss) {
                 number = n;
                 side = newSide;
@@ -1528,7 +1526,7 @@ public final class PulseParts {
         }
 
         boolean has(int cell) {
-            return cell >= 0 && cell < size();
+            return cell >= 0 && cell < sizes[now];
         }
 
         int value(int cell) {
