@@ -1047,9 +1047,9 @@ public final class PulseParts {
         int sideTogether(int one, int other) {
             int greatest = 0;
             weigh(one, NONE);
+            // With WEIGHTS of 1 a WAY below 0 only turns the imaginary part of that above 0 round.
             for (int way = 1; way < codes.lengthOf(one); way++) {
                 greatest = Math.max(greatest, powerTogether(one, other, way));
-                greatest = Math.max(greatest, powerTogether(one, other, -way));
             }
             return greatest;
         }
