@@ -503,7 +503,7 @@ public final class PulseParts {
                 }
                 length = putRun(turn, length, Math.max(times, 1));
             }
-            if (many <= MOST) {
+            if (many < lengths.length) {
                 lengths[many] = length;
             }
             return length == 0 ? tape.place : NONE;
@@ -528,7 +528,10 @@ public final class PulseParts {
         private int putRun(int turn, int length, int times) {
             int end = Math.min(length + times, LONGEST);
             for (int k = length; k < end; k++) {
-                turns[many * LONGEST + k] = turn;
+                int i = many * LONGEST + k;
+                if (i >= 0 && i < turns.length) {
+                    turns[i] = turn;
+                }
             }
             return end;
         }
@@ -1266,9 +1269,8 @@ public final class PulseParts {
                 if (value < LEAST_REST) {
                     return tape.place - 1;
                 }
-                numbers[many * LONGEST + i] = value;
+                putLast(i, value);
                 if (tape.next() == Tape.OVER) {
-                    lengths[many] = i + 1;
                     return NONE;
                 }
                 if (i == LONGEST - 1 || !tape.take(',')) {
@@ -1276,6 +1278,14 @@ public final class PulseParts {
                 }
             }
             return tape.place;
+        }
+
+        /** Puts a number into the free row, as the last of it. */
+        private void putLast(int i, int value) {
+            if (i >= 0 && i < LONGEST && many < lengths.length) {
+                numbers[many * LONGEST + i] = value;
+                lengths[many] = i + 1;
+            }
         }
 
         /** Makes the row that was read a SET: its number. */
@@ -1522,23 +1532,35 @@ public final class PulseParts {
         }
 
         int size() {
-            return sizes[now];
+            return now >= 0 && now < STATES ? sizes[now] : 0;
         }
 
         boolean has(int cell) {
-            return cell >= 0 && cell < sizes[now];
+            return cell >= 0 && cell < size();
         }
 
         int value(int cell) {
-            return has(cell) ? states[now * MOST + cell] : NONE;
+            return cell >= 0 && cell < size() ? states[now * MOST + cell] : NONE;
+        }
+
+        private void resize(int size) {
+            if (now >= 0 && now < STATES && size >= 0 && size <= MOST) {
+                sizes[now] = size;
+            }
+        }
+
+        private void write(int cell, int v) {
+            if (cell >= 0 && cell < size()) {
+                states[now * MOST + cell] = v;
+            }
         }
 
         int add(int v) {
             int size = size();
             if (size < MOST) {
                 startAct();
-                sizes[now] = size + 1;
-                states[now * MOST + size] = v;
+                resize(size + 1);
+                write(size, v);
             }
             return size();
         }
@@ -1546,7 +1568,7 @@ public final class PulseParts {
         void put(int cell, int v) {
             if (has(cell)) {
                 startAct();
-                states[now * MOST + cell] = v;
+                write(cell, v);
             }
         }
 
@@ -1555,17 +1577,17 @@ public final class PulseParts {
                 return;
             }
             startAct();
-            sizes[now] = many;
+            resize(many);
             long x = seed;
             for (int cell = 0; cell < many; cell++) {
                 x = x * TIMES + MORE;
-                states[now * MOST + cell] = (int) ((x >>> 33) % n);
+                write(cell, (int) ((x >>> 33) % n));
             }
         }
 
         int keepImage() {
             imageSize = size();
-            for (int cell = 0; cell < imageSize; cell++) {
+            for (int cell = 0; cell < imageSize && cell < MOST; cell++) {
                 image[cell] = value(cell);
             }
             return imageSize;
@@ -1576,9 +1598,9 @@ public final class PulseParts {
                 return NONE;
             }
             startAct();
-            sizes[now] = imageSize;
-            for (int cell = 0; cell < imageSize; cell++) {
-                states[now * MOST + cell] = image[cell];
+            resize(imageSize);
+            for (int cell = 0; cell < imageSize && cell < MOST; cell++) {
+                write(cell, image[cell]);
             }
             return imageSize;
         }
@@ -1586,10 +1608,11 @@ public final class PulseParts {
         /** Goes on to a new state that is like the one of now; nothing can be done AGAIN any more. */
         private void startAct() {
             int old = now;
+            int size = size();
             now = now < LATEST ? now + 1 : 0;
-            sizes[now] = sizes[old];
-            for (int cell = 0; cell < sizes[old]; cell++) {
-                states[now * MOST + cell] = states[old * MOST + cell];
+            resize(size);
+            for (int cell = 0; cell < size && cell < MOST; cell++) {
+                write(cell, states[old * MOST + cell]);
             }
             undoable = Math.min(undoable + 1, LATEST);
             undone = 0;
