@@ -208,7 +208,8 @@ public final class PulseParts {
     }
 
     public int choice(int rests, int k, int most, int what) {
-        if (!sets.has(rests) || !within(k, 0, sets.lengthOf(rests)) || !within(most, 1, FARTHEST)
+        // A CHOICE is a SET of RESTS again, so it has one number at least.
+        if (!sets.has(rests) || !within(k, 1, sets.lengthOf(rests)) || !within(most, 1, FARTHEST)
                 || !within(what, 0, 1)) {
             return NONE;
         }
@@ -1350,7 +1351,7 @@ public final class PulseParts {
             }
             chosen = NONE;
             chosenSees = NONE;
-            for (int bits = 0; bits < 1 << lengthOf(set); bits++) {
+            for (int bits = 1; bits < 1 << lengthOf(set); bits++) {
                 if (Integer.bitCount(bits) == k) {
                     prefer(bits, seenByChoice(bits));
                 }

@@ -294,7 +294,7 @@ public final class OracleTest {
                     check("map(" + set + ", " + most + ", " + which + ")", x.map(set, most, which), model.map(set, most, which));
                     break;
                 case 4: {
-                    int k = n(1, 4);
+                    int k = n(0, 4);
                     check("choice(" + set + ", " + k + ", " + most + ", " + which + ")",
                             x.choice(set, k, most, which), model.choice(set, k, most, which));
                     break;
@@ -1106,7 +1106,7 @@ public final class OracleTest {
         }
 
         int choice(int s, int k, int most, int what) {
-            if (!set(s) || !in(k, 0, rests.get(s).length) || !in(most, 1, 999) || !in(what, 0, 1)) {
+            if (!set(s) || !in(k, 1, rests.get(s).length) || !in(most, 1, 999) || !in(what, 0, 1)) {
                 return -1;
             }
             int[] all = rests.get(s);

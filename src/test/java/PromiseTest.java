@@ -789,6 +789,11 @@ public final class PromiseTest {
         due("choice(0, 3, 10, 0)", x.choice(0, 3, 10, 0), 7);
         due("choice(0, 4, 10, 0)", x.choice(0, 4, 10, 0), NONE);
         due("choice(0, 4, 10, 1)", x.choice(0, 4, 10, 1), NONE);
+        // A CHOICE of 0 is no such one, whatever is asked of it.
+        due("choice(0, 0, 10, 0)", x.choice(0, 0, 10, 0), NONE);
+        due("choice(0, 0, 10, 1)", x.choice(0, 0, 10, 1), NONE);
+        due("choice(0, 0, 1, 2)", x.choice(0, 0, 1, 2), NONE);
+        due("choice(1, 0, 999, 0)", x.choice(1, 0, 999, 0), NONE);
         due("choice(0, -1, 10, 0)", x.choice(0, -1, 10, 0), NONE);
         due("choice(0, 2, 0, 0)", x.choice(0, 2, 0, 0), NONE);
         due("choice(0, 2, 1000, 0)", x.choice(0, 2, 1000, 0), NONE);
@@ -803,6 +808,7 @@ public final class PromiseTest {
         due("choice(1, 8, 999, 0)", x.choice(1, 8, 999, 0), 255);
         x.set(1, 2);
         due("choice(0, 1, 10, 0) with NEED 2", x.choice(0, 1, 10, 0), 1);
+        due("choice(0, 0, 10, 1) with NEED 2", x.choice(0, 0, 10, 1), NONE);
         due("choice(0, 1, 10, 1) with NEED 2", x.choice(0, 1, 10, 1), 0);
         due("choice(0, 2, 10, 1) with NEED 2", x.choice(0, 2, 10, 1), 7);
         due("choice(0, 3, 10, 1) with NEED 2", x.choice(0, 3, 10, 1), 9);
