@@ -54,6 +54,7 @@ public final class PromiseTest {
         back();
         count();
         refusedChangesNothing();
+        readIsNotKept();
         apart();
         System.out.println(wrong == 0 ? "all promises hold" : wrong + " answers are not as due");
         if (wrong != 0) {
@@ -270,6 +271,15 @@ public final class PromiseTest {
         fault(1, "y:k<1|n>2&a=0?b", NONE);
         fault(1, "y:k<1||n>2?b", 6);
         fault(1, "y:k<1&?b", 6);
+        fault(1, "y:?1", 2);
+        fault(1, "y:k=?1", 4);
+        fault(1, "y:!?1", 3);
+        fault(1, "y:!k=?1", 5);
+        fault(1, "y:!=1?1", 3);
+        fault(1, "y:k=1&=2?1", 6);
+        fault(1, "y:k=1?;y:1", 6);
+        fault(1, "y:k=1|!?1", 7);
+        fault(1, "y:()?1", 3);
         fault(1, "y:!k", 4);
         fault(1, "y:!k=1?2", NONE);
         fault(1, "y:!k=1", 6);
@@ -282,6 +292,9 @@ public final class PromiseTest {
         fault(1, "y:k=1&(a=0|b=1)?[k+[n]]*2", NONE);
         fault(1, "y:[k", 4);
         fault(1, "y:[]", 3);
+        fault(1, "y:[+1]", 3);
+        fault(1, "y:1*[]", 5);
+        fault(1, "y:1/;y:2", 4);
         fault(1, "y:[k=1]", 4);
         fault(1, "y:[k]>1?2", NONE);
         fault(1, "y:k]", 3);
@@ -1208,6 +1221,7 @@ public final class PromiseTest {
         due("like(0, 3), turned round", x.like(0, 3), 1);
         due("like(0, 4)", x.like(0, 4), 0);
         due("like(5, 6), by a SPEED", x.like(5, 6), 1);
+        due("like(6, 5), by SPEED 3 alone", x.like(6, 5), 1);
         due("like(1, 6), by a SPEED", x.like(1, 6), 1);
         due("like(0, 6)", x.like(0, 6), 0);
         due("like(6, 7), unlike lengths", x.like(6, 7), 0);
@@ -1475,6 +1489,38 @@ public final class PromiseTest {
         x.beam(1, 2, 3);
         x.read(0, 3);
         tape(x, "+?");
+    }
+
+    /** A text that is looked at for its FAULT alone is no CODE, no LAW and no SET. */
+    private static void readIsNotKept() {
+        PulseParts x = with(0, "+2-");
+        tape(x, "+-+");
+        promise = 4;
+        due("fault(0) of '+-+'", x.fault(0), NONE);
+        due("sign(1, -1)", signOf(x, 1, NONE), THROWN);
+        due("weight(1, -1, 0)", x.weight(1, NONE, 0), HIDDEN);
+        due("comes(1, 0, -1, 0, 0, 0)", x.comes(1, 0, NONE, 0, 0, 0), HIDDEN);
+        due("comes(0, 1, -1, 0, 0, 0)", x.comes(0, 1, NONE, 0, 0, 0), HIDDEN);
+        due("lobes(1, -1, 0)", x.lobes(1, NONE, 0), NONE);
+        due("filter(1, 0)", x.filter(1, 0), NONE);
+        due("hinder(0, 1)", x.hinder(0, 1), NONE);
+        due("friends(9)", x.friends(9), 1);
+        due("like(0, 1)", x.like(0, 1), NONE);
+        due("partners(0, 1)", x.partners(0, 1), NONE);
+        due("partners(1, 0)", x.partners(1, 0), NONE);
+        x.end(0);
+        tape(x, "y:5");
+        due("fault(1) of 'y:5'", x.fault(1), NONE);
+        due("weight(0, 0, 0)", x.weight(0, 0, 0), HIDDEN);
+        x.end(0);
+        tape(x, "5,7");
+        due("fault(2) of '5,7'", x.fault(2), NONE);
+        due("rest(0, -1)", x.rest(0, NONE), NONE);
+        due("seen(0, 5)", x.seen(0, 5), NONE);
+        due("map(0, 40, 0)", x.map(0, 40, 0), HIDDEN);
+        due("choice(0, 1, 10, 0)", x.choice(0, 1, 10, 0), NONE);
+        due("unfold(0, 40, 0, 0, -1)", x.unfold(0, 40, 0, 0, NONE), NONE);
+        due("ghosts(0, 1, 2, 40)", x.ghosts(0, 1, 2, 40), NONE);
     }
 
     private static String look(PulseParts x) {
