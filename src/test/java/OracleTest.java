@@ -51,9 +51,9 @@ public final class OracleTest {
 
     /** The dearest SHARES, by going from row to row of counts instead of from row to row of levels. */
     private static void bigShares() {
-        PulseParts x = new PulseParts();
         for (int m = 1; m <= 8; m++) {
             for (int levels = 1; levels <= 9; levels += m > 5 ? 4 : 2) {
+                PulseParts x = new PulseParts();
                 for (int order = 1; order <= m; order++) {
                     for (int factor = 0; factor <= 99; factor += 11) {
                         long rows = countRows(m, levels, order, factor, 0, 0, 1);

@@ -1535,7 +1535,7 @@ public final class PromiseTest {
         return s.toString();
     }
 
-    /** Objects do not know of one another, and an object bears 512 of its dearest calls. */
+    /** Objects do not know of one another. */
     private static void apart() {
         promise = 1;
         PulseParts one = with(0, "+-");
@@ -1545,7 +1545,7 @@ public final class PromiseTest {
         due("count(0) of the other", other.count(0), 0);
         due("count(4) of the one", one.count(4), 0);
         PulseParts x = with(2, "91,92,93,94,95,96,97,98");
-        for (int i = 0; i < 400; i++) {
+        for (int i = 0; i < 250; i++) {
             due("choice", x.choice(0, 4, 999, 1), 999);
             due("stagger", x.stagger(3, 2, 30, 300, 1), 300);
         }
