@@ -144,14 +144,14 @@ public final class HeadFiveTest {
             {"i-j+2", "+4-"}, {"+3-2+-", "+3-2+-"}, {"+i", "+j"}};
         for (String[] pair : pairs) {
             PulseParts x = Bench.and(Bench.with(CODE, pair), Bench.LAW, "y:5");
-            x.lobes(0, 0, 0);
             int greatest = 0;
             for (int way = -23; way <= 23; way++) {
                 int real = x.comes(0, 0, NONE, way, 0, 0) + x.comes(1, 1, NONE, way, 0, 0);
                 int imaginary = x.comes(0, 0, NONE, way, 0, 1) + x.comes(1, 1, NONE, way, 0, 1);
                 greatest = way == 0 ? greatest : Math.max(greatest, real * real + imaginary * imaginary);
             }
-            bench.due("partners of " + Arrays.toString(pair), x.partners(0, 1), greatest);
+            x.lobes(0, 0, 0);
+            bench.due("partners of " + Arrays.toString(pair) + ", a LAW used ahead", x.partners(0, 1), greatest);
             bench.due("partners of " + Arrays.toString(pair) + ", the other way round", x.partners(1, 0), greatest);
         }
         bench.due("partners of one SIGN each: no other WAY", Bench.with(CODE, "+", "i").partners(0, 1), 0);

@@ -34,6 +34,9 @@ public final class HeadOneTest {
         blanks();
         endsTooEarly();
         fullTapes();
+        conditionsByTable();
+        readIsNotKept();
+        shorterBehindLonger();
         bench.finish();
     }
 
@@ -654,5 +657,106 @@ public final class HeadOneTest {
         Bench.and(x, RESTS, Bench.times(" ", 118) + "99", "99" + Bench.times(" ", 118));
         bench.due("rest(0, 0)", x.rest(0, 0), 99);
         bench.due("rest(1, 0)", x.rest(1, 0), 99);
+    }
+
+    private static boolean compares(int left, char sign, int right) {
+        return sign == '=' ? left == right : sign == '<' ? left < right : left > right;
+    }
+
+    private static void conditionsByTable() {
+        bench.sentence("TRUTHS with | between; UNITS with & between; ! UNIT, one of = < >: which of them hold");
+        char[] signs = {'=', '<', '>'};
+        for (char one : signs) {
+            for (char other : signs) {
+                for (int n = 0; n < 9; n++) {
+                    int left = n % 3;
+                    int right = n / 3;
+                    boolean a = compares(left, one, 1);
+                    boolean b = compares(right, other, 1);
+                    String units = left + "" + one + "1";
+                    String more = right + "" + other + "1";
+                    worth("y:" + units + "&" + more + "?5;y:6", a && b ? 5 : 6);
+                    worth("y:" + units + "|" + more + "?5;y:6", a || b ? 5 : 6);
+                    worth("y:!" + units + "&" + more + "?5;y:6", !a && b ? 5 : 6);
+                    worth("y:" + units + "|!" + more + "?5;y:6", a || !b ? 5 : 6);
+                    worth("y:!(" + units + "&" + more + ")?5;y:6", a && b ? 6 : 5);
+                    worth("y:" + units + "|" + more + "&0=1?5;y:6", a ? 5 : 6);
+                    worth("y:0=1&" + units + "|" + more + "?5;y:6", b ? 5 : 6);
+                }
+            }
+        }
+    }
+
+    /** What is read of the TAPE for its FAULT alone has no number yet. */
+    private static PulseParts looked(int sort, String kept, String looked) {
+        PulseParts x = Bench.and(sort == LAW ? Bench.with(CODE, "+2") : new PulseParts(), sort, kept);
+        Bench.feed(x, looked);
+        bench.due("fault(" + sort + ") of '" + looked + "'", x.fault(sort), NONE);
+        return x;
+    }
+
+    private static void readIsNotKept() {
+        bench.sentence("text: The TAPE .. is one of these: its number: ahead of text there is no such one");
+        PulseParts x = looked(CODE, "+2", "+-");
+        bench.due("sign(1, -1)", Bench.signOf(x, 1, NONE), Bench.THROWN);
+        bench.due("sign(1, 0)", Bench.signOf(x, 1, 0), Bench.THROWN);
+        bench.due("weight(1, -1, 0)", x.weight(1, NONE, 0), HIDDEN);
+        bench.due("comes(1, 0, -1, 0, 0, 0)", x.comes(1, 0, NONE, 0, 0, 0), HIDDEN);
+        bench.due("comes(0, 1, -1, 0, 0, 0)", x.comes(0, 1, NONE, 0, 0, 0), HIDDEN);
+        bench.due("lobes(1, -1, 0)", x.lobes(1, NONE, 0), NONE);
+        bench.due("hinder(0, 1)", x.hinder(0, 1), NONE);
+        bench.due("hinder(1, 0)", x.hinder(1, 0), NONE);
+        bench.due("friends(9)", x.friends(9), 1);
+        bench.due("filter(1, 0)", x.filter(1, 0), NONE);
+        bench.due("like(0, 1)", x.like(0, 1), NONE);
+        bench.due("like(1, 0)", x.like(1, 0), NONE);
+        bench.due("partners(0, 1)", x.partners(0, 1), NONE);
+        bench.due("partners(1, 0)", x.partners(1, 0), NONE);
+        bench.due("partners(1, 1)", x.partners(1, 1), NONE);
+        PulseParts law = looked(LAW, "y:5", "y:6");
+        bench.due("weight(0, 1, 0)", law.weight(0, 1, 0), HIDDEN);
+        bench.due("comes(0, 0, 1, 0, 0, 0)", law.comes(0, 0, 1, 0, 0, 0), HIDDEN);
+        bench.due("lobes(0, 1, 0)", law.lobes(0, 1, 0), NONE);
+        bench.due("weight(0, 0, 0)", law.weight(0, 0, 0), 5);
+        PulseParts rests = looked(RESTS, "5,7", "6,8");
+        bench.due("rest(1, -1)", rests.rest(1, NONE), NONE);
+        bench.due("rest(1, 0)", rests.rest(1, 0), NONE);
+        bench.due("seen(1, 5)", rests.seen(1, 5), NONE);
+        bench.due("map(1, 9, 0)", rests.map(1, 9, 0), HIDDEN);
+        bench.due("choice(1, 1, 9, 0)", rests.choice(1, 1, 9, 0), NONE);
+        bench.due("choice(1, 2, 9, 1)", rests.choice(1, 2, 9, 1), NONE);
+        bench.due("unfold(1, 9, 0, 0, -1)", rests.unfold(1, 9, 0, 0, NONE), NONE);
+        bench.due("ghosts(1, 1, 2, 9)", rests.ghosts(1, 1, 2, 9), NONE);
+        bench.due("rest(0, 1)", rests.rest(0, 1), 7);
+        bench.due("the TAPE with 3 bytes is there still", rests.text(RESTS), 1);
+        bench.due("rest(1, 1)", rests.rest(1, 1), 8);
+    }
+
+    private static void shorterBehindLonger() {
+        bench.sentence("text: one of these: nothing is left of a longer one that was kept, or looked at, ahead of it");
+        String[] longer = {"+9-9i6", "y:1=2?5;y:n+7+7+7", "9,8,7,6,5,4,3,2"};
+        String[] shorter = {"j", "y:1=2?5", "77"};
+        for (int kept = 0; kept <= 2; kept++) {
+            PulseParts x = Bench.with(CODE, "+");
+            for (int sort = 0; sort <= 2; sort++) {
+                Bench.feed(x, kept == 2 ? longer[sort] + "?" : longer[sort]);
+                if (kept == 1) {
+                    x.text(sort);
+                } else {
+                    x.fault(sort);
+                }
+                x.end(0);
+                Bench.and(x, sort, shorter[sort]);
+            }
+            int code = x.count(0) - 1;
+            int set = x.count(2) - 1;
+            bench.due("sign(" + code + ", -1)", Bench.signOf(x, code, NONE), 1);
+            bench.due("sign(" + code + ", 0)", Bench.signOf(x, code, 0), 3);
+            bench.due("hinder(" + code + ", " + code + ")", x.hinder(code, code), 1);
+            bench.due("weight by 'y:1=2?5'", x.weight(0, x.count(1) - 1, 0), 0);
+            bench.due("rest(" + set + ", -1)", x.rest(set, NONE), 1);
+            bench.due("rest(" + set + ", 0)", x.rest(set, 0), 77);
+            bench.due("rest(" + set + ", 1)", x.rest(set, 1), NONE);
+        }
     }
 }

@@ -100,6 +100,13 @@ public final class HeadThreeTest {
             bench.due("seen(0, 1)", x.seen(0, 1), 1);
             bench.due("seen(0, 840), by 9 alone", x.seen(0, 840), need == 1 ? 1 : 0);
             bench.due("seen(1, 1) of two with NEED " + need, x.seen(1, 1), need <= 2 ? 1 : 0);
+            // With BLIND 0 each of two sees all, and no more than these do.
+            x.set(0, 0);
+            bench.due("seen(1, 0) of two with BLIND 0, NEED " + need, x.seen(1, 0), need <= 2 ? 1 : 0);
+            bench.due("map(1, 999, 0) of two with BLIND 0, NEED " + need, x.map(1, 999, 0), need <= 2 ? 999 : 0);
+            bench.due("choice of one of two with BLIND 0, NEED " + need, x.choice(1, 1, 9, 1), need <= 1 ? 9 : 0);
+            bench.due("choice of two of two with BLIND 0, NEED " + need, x.choice(1, 2, 9, 1), need <= 2 ? 9 : 0);
+            bench.due("seen(0, 0) of eight with BLIND 0, NEED " + need, x.seen(0, 0), 1);
         }
     }
 
@@ -159,12 +166,12 @@ public final class HeadThreeTest {
         bench.unchanged("map(1, 999, 0)", HeadThreeTest::some, x -> x.map(1, 999, 0) > 0 ? 1 : 0, 1);
     }
 
-    private static int seenOf(int[] rests, int bits, int most, int need) {
+    private static int seenOf(int[] rests, int bits, int most, int blind, int need) {
         int seen = 0;
         for (int r = 1; r <= most; r++) {
             int by = 0;
             for (int i = 0; i < rests.length; i++) {
-                by += (bits >> i & 1) == 1 && r % rests[i] >= 1 ? 1 : 0;
+                by += (bits >> i & 1) == 1 && r % rests[i] >= blind ? 1 : 0;
             }
             seen += by >= need ? 1 : 0;
         }
@@ -174,23 +181,25 @@ public final class HeadThreeTest {
     private static void choice() {
         bench.sentence("CHOICE of k of a SET (as bits): that with most SEEN in 1 .. so many (by NEED of these; of several the least bits)");
         int[] rests = {4, 6, 3, 9, 6, 5, 10, 2};
-        for (int most : new int[] {1, 2, 12, 60, 999}) {
-            for (int need = 1; need <= 8; need += need == 3 ? 5 : 1) {
-                PulseParts x = Bench.with(RESTS, "4,6,3,9,6,5,10,2");
-                x.set(1, need);
-                for (int k = 1; k <= 8; k++) {
-                    int best = -1;
-                    int sees = -1;
-                    for (int bits = 1; bits < 256; bits++) {
-                        if (Integer.bitCount(bits) == k && seenOf(rests, bits, most, need) > sees) {
-                            best = bits;
-                            sees = seenOf(rests, bits, most, need);
-                        }
+        for (int n = 0; n < 40; n++) {
+            int blind = new int[] {1, 0, 2, 9}[n % 4];
+            int need = new int[] {1, 2, 3, 8, 4, 1, 2, 3, 5, 7}[n / 4];
+            int most = new int[] {60, 1, 2, 12, 999}[n % 5];
+            PulseParts x = Bench.with(RESTS, "4,6,3,9,6,5,10,2");
+            x.set(0, blind);
+            x.set(1, need);
+            for (int k = 1; k <= 8; k++) {
+                int best = -1;
+                int sees = -1;
+                for (int bits = 1; bits < 256; bits++) {
+                    if (Integer.bitCount(bits) == k && seenOf(rests, bits, most, blind, need) > sees) {
+                        best = bits;
+                        sees = seenOf(rests, bits, most, blind, need);
                     }
-                    String of = "choice of " + k + " in 1 .. " + most + " with NEED " + need;
-                    bench.due(of, x.choice(0, k, most, 0), best);
-                    bench.due(of + ", SEEN", x.choice(0, k, most, 1), sees);
                 }
+                String of = "choice of " + k + " in 1 .. " + most + " with BLIND " + blind + ", NEED " + need;
+                bench.due(of, x.choice(0, k, most, 0), best);
+                bench.due(of + ", SEEN", x.choice(0, k, most, 1), sees);
             }
         }
         PulseParts one = Bench.with(RESTS, "9");

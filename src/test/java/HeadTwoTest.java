@@ -309,6 +309,12 @@ public final class HeadTwoTest {
         }
         bench.due("hinder(0, 0)", x.hinder(0, 0), 576);
         bench.due("hinder(1, 1)", x.hinder(1, 1), 1);
+        // A LAW that is told ahead of the CODES does not matter.
+        PulseParts lawFirst = Bench.and(Bench.with(LAW, "y:0"), CODE, "+3", "-4");
+        bench.due("hinder(0, 0), a LAW ahead", lawFirst.hinder(0, 0), 9);
+        bench.due("hinder(0, 1), a LAW ahead", lawFirst.hinder(0, 1), 9);
+        bench.due("hinder(1, 1), a LAW ahead", lawFirst.hinder(1, 1), 16);
+        bench.due("friends(8), a LAW ahead", lawFirst.friends(8), 1);
         // The greatest at the farthest WAYS: the last alone meets the first alone.
         PulseParts far = Bench.with(CODE, "+2", "+-");
         bench.due("hinder(+2, +-)", far.hinder(0, 1), 1);
@@ -460,7 +466,8 @@ public final class HeadTwoTest {
         for (int what = 0; what <= 3; what++) {
             bench.due("filter(0, " + what + ") of one", one.filter(0, what), want[what]);
         }
-        String[] codes = {"+2", "+-", "i+", "+3", "+2-", "+i-", "+4", "+i-j", "-+2j"};
+        // LOSS tells of those of five and six; the number of all, with WEIGHTS turned round.
+        String[] codes = {"+2", "+-", "i+", "+3", "+2-", "+i-", "+4", "+i-j", "-+2j", "+3-2", "+3i-", "-+2-+", "-2+4"};
         for (String code : codes) {
             int length = Bench.signOf(Bench.with(CODE, code), 0, NONE);
             int[] best = null;
