@@ -524,6 +524,7 @@ public final class HeadOneTest {
         }
         for (int v = 0; v <= 9; v++) {
             bench.fault(RESTS, "0" + v, v < 2 ? 1 : NONE);
+            bench.fault(RESTS, "0" + v + "5", v < 2 ? 1 : 2);
         }
         for (int third = 0; third <= 9; third++) {
             bench.fault(RESTS, "10" + third, 2);
