@@ -811,7 +811,8 @@ public final class PulseParts {
 
         private int worth(int law, int k, int n, int a, int b) {
             top = 0;
-            for (int i = 0; i < lengths[law]; i++) {
+            int length = law >= 0 && law < MOST ? Math.min(lengths[law], Tape.MOST) : 0;
+            for (int i = 0; i < length; i++) {
                 int step = steps[law * Tape.MOST + i];
                 switch (-step) {
                     case 'k':
@@ -932,7 +933,8 @@ public final class PulseParts {
             }
             int[] turns = codes.turns;
             int from = Math.max(0, way);
-            int to = Math.min(codes.lengthOf(one), codes.lengthOf(other) + way);
+            int reach = Math.min(codes.lengthOf(other), weights.length);
+            int to = Math.min(Math.min(codes.lengthOf(one), Codes.LONGEST), reach + way);
             for (int k = from; k < to; k++) {
                 int weight = weights[k - way];
                 int turn = turns[one * Codes.LONGEST + k] + speed * k - turns[other * Codes.LONGEST + k - way] & 3;
@@ -1825,13 +1827,24 @@ public final class PulseParts {
             dues[many] = due;
             worths[many] = worth;
             int i = many;
-            while (i > 0 && dues[byDue[i - 1]] > due) {
+            while (i > 0 && dueAt(i - 1) > due) {
                 byDue[i] = byDue[i - 1];
                 i--;
             }
             byDue[i] = many;
             many++;
             return many - 1;
+        }
+
+        /** The BEAM at a place of those by rising DUE, or NONE. */
+        private int beamAt(int i) {
+            int beam = i >= 0 && i < many ? byDue[i] : NONE;
+            return beam < many ? beam : NONE;
+        }
+
+        private int dueAt(int i) {
+            int beam = beamAt(i);
+            return beam >= 0 ? dues[beam] : 0;
         }
 
         /** PLAN: its bits. */
@@ -1848,8 +1861,8 @@ public final class PulseParts {
         private boolean canBeDone(int bits) {
             int time = 0;
             for (int i = 0; i < many; i++) {
-                int beam = byDue[i];
-                if ((bits >> beam & 1) == 1) {
+                int beam = beamAt(i);
+                if (beam >= 0 && (bits >> beam & 1) == 1) {
                     time += times[beam];
                     if (time > dues[beam]) {
                         return false;
